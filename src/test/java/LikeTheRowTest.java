@@ -1,0 +1,85 @@
+import java.util.List;
+
+/** Holds RowCode against PlainRow on codes made by chance: rightness, and each run with all that it leaves. */
+final class LikeTheRowTest {
+    private static final int CODES = 12000;
+    private static final int SHORT_CODES = 300000;
+    private static int right;
+    private static int wrong;
+    private static final int[] ANSWERS = new int[6];
+
+    private LikeTheRowTest() {
+    }
+
+    public static void main(String[] args) {
+        CodeMaker maker = new CodeMaker(20261115L);
+        for (int i = 0; i < CODES && !Due.anyWrong(); i++) {
+            int size = i % 10 == 0 ? 1 + maker.below(340) : 1 + maker.below(50);
+            hold(maker, i % 3 == 2 ? maker.spoiled(size) : maker.right(size), i % 3 != 2);
+        }
+        for (int i = 0; i < SHORT_CODES && !Due.anyWrong(); i++) {
+            hold(maker, maker.steering(), false);
+        }
+        System.out.println(right + " right codes, " + wrong + " others; runs by answer: none " + ANSWERS[0] + ", end "
+            + ANSWERS[1] + ", no fuel " + ANSWERS[2] + ", no address " + ANSWERS[3] + ", division " + ANSWERS[4]
+            + ", stop " + ANSWERS[5]);
+        Due.yes("enough codes are right", right > 5000);
+        Due.yes("enough codes are wrong", wrong > 5000);
+        for (int answer = 0; answer < 6; answer++) {
+            Due.yes("enough runs answer " + (answer - 1), ANSWERS[answer] > 200);
+        }
+        Due.finish();
+    }
+
+    private static void hold(CodeMaker maker, List<int[]> code, boolean mustBeRight) {
+        RowCode x = new RowCode();
+        PlainRow plain = new PlainRow();
+        for (int[] c : code) {
+            x.add(c[0], c[1]);
+            plain.code.add(c);
+        }
+        boolean isRight = plain.right();
+        Due.same("build() of " + plain, x.build() ? 1 : 0, isRight ? 1 : 0);
+        if (mustBeRight && !isRight) {
+            Due.tell("the maker made a wrong code: " + plain);
+        }
+        if (isRight) {
+            right++;
+        } else {
+            wrong++;
+        }
+        for (int turn = 0; turn < (isRight ? 3 : 1); turn++) {
+            scatter(maker, x, plain);
+            runBoth(maker, x, plain);
+        }
+    }
+
+    private static void scatter(CodeMaker maker, RowCode x, PlainRow plain) {
+        for (int i = 0; i < 16; i++) {
+            int value = maker.value();
+            Due.same("set(" + i + ")", x.set(i, value), plain.locals[i]);
+            plain.locals[i] = value;
+        }
+        for (int n = 0; n < 8; n++) {
+            int address = maker.below(64);
+            int value = maker.value();
+            Due.same("put(" + address + ")", x.put(address, value), plain.words[address]);
+            plain.words[address] = value;
+        }
+    }
+
+    private static void runBoth(CodeMaker maker, RowCode x, PlainRow plain) {
+        int fuel = maker.below(8) == 0 ? maker.below(2000) : maker.below(12);
+        int answer = plain.run(fuel);
+        ANSWERS[answer + 1]++;
+        Due.same("run(" + fuel + ") of " + plain, x.run(fuel), answer);
+        Due.same("value() of " + plain, x.value(), plain.value);
+        Due.same("fuel() of " + plain, x.fuel(), plain.fuel);
+        for (int i = 0; i < 16; i++) {
+            Due.same("local(" + i + ") of " + plain, x.local(i), plain.locals[i]);
+        }
+        for (int i = 0; i < 64; i++) {
+            Due.same("word(" + i + ") of " + plain, x.word(i), plain.words[i]);
+        }
+    }
+}
