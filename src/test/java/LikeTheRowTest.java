@@ -1,8 +1,8 @@
 import java.util.List;
 
-/** Holds RowCode against PlainRow on codes made by chance: rightness, and each run with all that it leaves. */
+/** Promises 4 to 11: holds RowCode against PlainRow on codes made by chance, each run with all that it leaves. */
 final class LikeTheRowTest {
-    private static final int CODES = 12000;
+    private static final int CODES = 20000;
     private static final int SHORT_CODES = 300000;
     private static int right;
     private static int wrong;
@@ -12,7 +12,8 @@ final class LikeTheRowTest {
     }
 
     public static void main(String[] args) {
-        CodeMaker maker = new CodeMaker(20261115L);
+        long seed = args.length > 1 ? Long.parseLong(args[1]) : 20261115L;
+        CodeMaker maker = new CodeMaker(seed);
         for (int i = 0; i < CODES && !Due.anyWrong(); i++) {
             int size = i % 10 == 0 ? 1 + maker.below(340) : 1 + maker.below(50);
             hold(maker, i % 3 == 2 ? maker.spoiled(size) : maker.right(size), i % 3 != 2);
@@ -39,7 +40,7 @@ final class LikeTheRowTest {
             plain.code.add(c);
         }
         boolean isRight = plain.right();
-        Due.same("build() of " + plain, x.build() ? 1 : 0, isRight ? 1 : 0);
+        same(plain, "build", 0, x.build() ? 1 : 0, isRight ? 1 : 0);
         if (mustBeRight && !isRight) {
             Due.tell("the maker made a wrong code: " + plain);
         }
@@ -54,16 +55,20 @@ final class LikeTheRowTest {
         }
     }
 
+    private static void same(PlainRow plain, String call, int argument, long got, long want) {
+        Due.same(got == want ? call : call + "(" + argument + ") of " + plain, got, want);
+    }
+
     private static void scatter(CodeMaker maker, RowCode x, PlainRow plain) {
         for (int i = 0; i < 16; i++) {
             int value = maker.value();
-            Due.same("set(" + i + ")", x.set(i, value), plain.locals[i]);
+            same(plain, "set", i, x.set(i, value), plain.locals[i]);
             plain.locals[i] = value;
         }
         for (int n = 0; n < 8; n++) {
             int address = maker.below(64);
             int value = maker.value();
-            Due.same("put(" + address + ")", x.put(address, value), plain.words[address]);
+            same(plain, "put", address, x.put(address, value), plain.words[address]);
             plain.words[address] = value;
         }
     }
@@ -72,14 +77,14 @@ final class LikeTheRowTest {
         int fuel = maker.below(8) == 0 ? maker.below(2000) : maker.below(12);
         int answer = plain.run(fuel);
         ANSWERS[answer + 1]++;
-        Due.same("run(" + fuel + ") of " + plain, x.run(fuel), answer);
-        Due.same("value() of " + plain, x.value(), plain.value);
-        Due.same("fuel() of " + plain, x.fuel(), plain.fuel);
+        same(plain, "run", fuel, x.run(fuel), answer);
+        same(plain, "value behind run", fuel, x.value(), plain.value);
+        same(plain, "fuel behind run", fuel, x.fuel(), plain.fuel);
         for (int i = 0; i < 16; i++) {
-            Due.same("local(" + i + ") of " + plain, x.local(i), plain.locals[i]);
+            same(plain, "local", i, x.local(i), plain.locals[i]);
         }
         for (int i = 0; i < 64; i++) {
-            Due.same("word(" + i + ") of " + plain, x.word(i), plain.words[i]);
+            same(plain, "word", i, x.word(i), plain.words[i]);
         }
     }
 }
