@@ -214,13 +214,17 @@ public final class RowCode {
         }
 
         int takeLast() {
-            int last = at(count - 1);
-            cutTo(count - 1);
-            return last;
+            if (count <= 0) {
+                return NONE;
+            }
+            count--;
+            return items[count];
         }
 
         void cutTo(int size) {
-            count = Math.max(0, Math.min(count, size));
+            if (size < count) {
+                count = size < 0 ? 0 : size;
+            }
         }
 
         void refill(int size, int number) {
@@ -268,11 +272,13 @@ public final class RowCode {
         }
 
         void cutLast() {
-            cutTo(numbers.size() - 1);
+            numbers.takeLast();
+            arguments.takeLast();
         }
 
         void replaceLast(int count, int number, int argument) {
-            cutTo(numbers.size() - count);
+            numbers.cutTo(numbers.size() - count);
+            arguments.cutTo(arguments.size() - count);
             numbers.append(number);
             arguments.append(argument);
         }
@@ -762,18 +768,16 @@ public final class RowCode {
         /** The label comes next: what goes to it from right ahead need not jump. */
         private void shortenWayTo(int label) {
             boolean comesByGo = into.lastNumber(0) == GO;
+            int back = comesByGo ? 1 : 0;
+            boolean comesByCondition = isCondition(into.lastNumber(back)) && into.lastArgument(back) == label
+                && into.lastNumber(back + 1) != CASE;
             if (comesByGo && into.lastArgument(0) == label) {
                 into.cutLast();
-            } else if (comesByGo && isConditionTo(1, label)) {
+            } else if (comesByGo && comesByCondition) {
                 into.replaceLast(2, otherCondition(into.lastNumber(1)), into.lastArgument(0));
-            } else if (isConditionTo(0, label)) {
+            } else if (comesByCondition) {
                 into.replaceLast(1, DROP, 0);
             }
-        }
-
-        private boolean isConditionTo(int back, int label) {
-            return isCondition(into.lastNumber(back)) && into.lastArgument(back) == label
-                && into.lastNumber(back + 1) != CASE;
         }
     }
 

@@ -7,6 +7,9 @@ final class LikeTheRowTest {
     private static int right;
     private static int wrong;
     private static final int[] ANSWERS = new int[6];
+    private static RowCode x = new RowCode();
+    private static PlainRow plain = new PlainRow();
+    private static int calls;
 
     private LikeTheRowTest() {
     }
@@ -32,15 +35,27 @@ final class LikeTheRowTest {
         Due.finish();
     }
 
+    /** An object is used for one code behind the other, as long as 512 calls allow it. */
     private static void hold(CodeMaker maker, List<int[]> code, boolean mustBeRight) {
-        RowCode x = new RowCode();
-        PlainRow plain = new PlainRow();
+        int turns = code.size() > 20 && code.size() < 150 ? 3 : 1;
+        int more = 2 + code.size() + turns * 107;
+        calls += more;
+        if (calls > 512) {
+            x = new RowCode();
+            plain = new PlainRow();
+            calls = more;
+        }
+        x.clear();
+        plain.code.clear();
         for (int[] c : code) {
             x.add(c[0], c[1]);
             plain.code.add(c);
         }
         boolean isRight = plain.right();
-        same(plain, "build", 0, x.build() ? 1 : 0, isRight ? 1 : 0);
+        // A run finds out by itself whether the code is right.
+        if (maker.below(2) == 0) {
+            same("build", 0, x.build() ? 1 : 0, isRight ? 1 : 0);
+        }
         if (mustBeRight && !isRight) {
             Due.tell("the maker made a wrong code: " + plain);
         }
@@ -49,42 +64,42 @@ final class LikeTheRowTest {
         } else {
             wrong++;
         }
-        for (int turn = 0; turn < (isRight ? 3 : 1); turn++) {
-            scatter(maker, x, plain);
-            runBoth(maker, x, plain);
+        for (int turn = 0; turn < turns; turn++) {
+            scatter(maker);
+            runBoth(maker);
         }
     }
 
-    private static void same(PlainRow plain, String call, int argument, long got, long want) {
+    private static void same(String call, int argument, long got, long want) {
         Due.same(got == want ? call : call + "(" + argument + ") of " + plain, got, want);
     }
 
-    private static void scatter(CodeMaker maker, RowCode x, PlainRow plain) {
+    private static void scatter(CodeMaker maker) {
         for (int i = 0; i < 16; i++) {
             int value = maker.value();
-            same(plain, "set", i, x.set(i, value), plain.locals[i]);
+            same("set", i, x.set(i, value), plain.locals[i]);
             plain.locals[i] = value;
         }
         for (int n = 0; n < 8; n++) {
             int address = maker.below(64);
             int value = maker.value();
-            same(plain, "put", address, x.put(address, value), plain.words[address]);
+            same("put", address, x.put(address, value), plain.words[address]);
             plain.words[address] = value;
         }
     }
 
-    private static void runBoth(CodeMaker maker, RowCode x, PlainRow plain) {
+    private static void runBoth(CodeMaker maker) {
         int fuel = maker.below(8) == 0 ? maker.below(2000) : maker.below(12);
         int answer = plain.run(fuel);
         ANSWERS[answer + 1]++;
-        same(plain, "run", fuel, x.run(fuel), answer);
-        same(plain, "value behind run", fuel, x.value(), plain.value);
-        same(plain, "fuel behind run", fuel, x.fuel(), plain.fuel);
+        same("run", fuel, x.run(fuel), answer);
+        same("value behind run", fuel, x.value(), plain.value);
+        same("fuel behind run", fuel, x.fuel(), plain.fuel);
         for (int i = 0; i < 16; i++) {
-            same(plain, "local", i, x.local(i), plain.locals[i]);
+            same("local", i, x.local(i), plain.locals[i]);
         }
         for (int i = 0; i < 64; i++) {
-            same(plain, "word", i, x.word(i), plain.words[i]);
+            same("word", i, x.word(i), plain.words[i]);
         }
     }
 }
