@@ -837,7 +837,8 @@ public final class RowCode {
                     case STOP: write(HALT, 0); layRow(0); break;
                     case CASE: i++; goInCase(k, code.argumentAt(i)); break;
                     case FROM_BYTE: meet(false); write(FETCH_BYTE, 0); leaveInA(); break;
-                    default: storeByte(); break;
+                    case TO_BYTE: storeByte(); break;
+                    default: break;
                 }
             }
             return image;
@@ -1105,7 +1106,8 @@ public final class RowCode {
                 case LOAD_SLOT: a = slots.at(argument); b = old; break;
                 case KEEP_A: slots.change(argument, a); break;
                 case KEEP_B: slots.change(argument, b); break;
-                default: a = b; b = old; break;
+                case SWAP: a = b; b = old; break;
+                default: break;
             }
         }
 
@@ -1132,7 +1134,8 @@ public final class RowCode {
                 case STORE_BYTE: storeByte(slots.at(argument)); break;
                 case PAY: pay(); break;
                 case FINISH: endValue = a; state = ENDED; break;
-                default: state = STOPPED; break;
+                case HALT: state = STOPPED; break;
+                default: break;
             }
         }
 

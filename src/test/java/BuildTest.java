@@ -63,7 +63,7 @@ final class BuildTest {
         wrong("of a label twice", 13, 7, 13, 7, 17, 0);
         wrong("of a label twice, once where no way comes", 13, 7, 17, 0, 13, 7, 17, 0);
         for (int number = 10; number <= 12; number++) {
-            right("of " + number + " to a label", 0, 1, number, 3, 0, 1, 14, 0, number == 10 ? 14 : 15, 0, 13, 3, 17, 0);
+            right("of " + number + " to a label", 0, 1, number, 3, 0, 1, 14, 0, 13, 3, 17, 0);
             wrong("of " + number + " to no label", 0, 1, number, 3, 13, 4, 17, 0);
             wrong("of " + number + " to no label where no way comes", 17, 0, number, 3);
             wrong("of " + number + " to label -1", 0, 1, number, -1, 17, 0);

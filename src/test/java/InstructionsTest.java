@@ -117,7 +117,8 @@ final class InstructionsTest {
     }
 
     private static void comparisons() {
-        int[][] pairs = {{1, 2}, {2, 1}, {2, 2}, {MIN, MAX}, {MAX, MIN}, {-1, 0}, {0, 0}, {0, -1}, {MIN, MIN}, {MIN, 1}};
+        int[][] pairs = {{1, 2}, {2, 1}, {2, 2}, {MIN, MAX}, {MAX, MIN}, {-1, 0}, {0, 0}, {0, -1}, {MIN, MIN},
+            {MIN, 1}};
         for (int[] p : pairs) {
             boolean[] holds = {p[0] == p[1], p[0] != p[1], p[0] < p[1], p[0] <= p[1], p[0] > p[1], p[0] >= p[1]};
             for (int k = 0; k < 6; k++) {
@@ -132,8 +133,9 @@ final class InstructionsTest {
                     int goes = (value != 0) == (number == 12) ? 20 : 10;
                     ends(what + " and " + number, ofLocals(p[0], p[1], 1, 0, 1, 1, 8, k, number, 5, 0, 10, 16, 0,
                         13, 5, 0, 20, 16, 0), goes);
-                    ends(what + " and " + number + ", the second made first", ofLocals(p[0], ~p[1], 1, 0, 1, 1, 6, 0, 8, k,
-                        number, 5, 0, 10, 16, 0, 13, 5, 0, 20, 16, 0), goes);
+                    ends(what + " and " + number + ", the second made first",
+                        ofLocals(p[0], ~p[1], 1, 0, 1, 1, 6, 0, 8, k, number, 5, 0, 10, 16, 0,
+                            13, 5, 0, 20, 16, 0), goes);
                 }
             }
         }
@@ -148,12 +150,14 @@ final class InstructionsTest {
                 String what = "9 " + k + " on " + p[0] + " " + p[1];
                 ends(what + " and 14", ofLocals(p[0], p[1], 1, 0, 1, 1, 9, k, 14, 0, 16, 0), p[1]);
                 ends(what + " and 14, made", ofLocals(p[0], ~p[1], 1, 0, 1, 1, 6, 0, 9, k, 14, 0, 16, 0), p[1]);
-                ends(what + " and 7 1", ofLocals(p[0], p[1], 1, 0, 1, 1, 9, k, 7, 1, 16, 0), p[1] - (holds[k] ? -1 : 0));
+                ends(what + " and 7 1", ofLocals(p[0], p[1], 1, 0, 1, 1, 9, k, 7, 1, 16, 0),
+                    holds[k] ? p[1] + 1 : p[1]);
             }
         }
         // 1 < 2 < 3, and 1 < 2 < 2.
         ends("a chain that holds", Due.code(0, 1, 0, 2, 9, 2, 11, 0, 0, 3, 8, 2, 16, 0, 13, 0, 14, 0, 0, 0, 16, 0), -1);
-        ends("a chain that does not", Due.code(0, 1, 0, 2, 9, 2, 11, 0, 0, 2, 8, 2, 16, 0, 13, 0, 14, 0, 0, 0, 16, 0), 0);
+        ends("a chain that does not",
+            Due.code(0, 1, 0, 2, 9, 2, 11, 0, 0, 2, 8, 2, 16, 0, 13, 0, 14, 0, 0, 0, 16, 0), 0);
         ends("the value below stays", ofLocals(5, 6, 0, 9, 1, 0, 1, 1, 9, 2, 14, 0, 14, 0, 16, 0), 9);
     }
 
@@ -164,7 +168,8 @@ final class InstructionsTest {
             Due.same("word(" + address + ")", x.word(address), 77);
             RowCode y = Due.code(0, 78, 0, address, 4, 0, 0, address, 3, 0, 16, 0);
             ends("4 and 3 at the number " + address, y, 78);
-            ends("4 with the address made first", ofLocals(~address, 79, 1, 1, 1, 0, 6, 0, 4, 0, 0, address, 3, 0, 16, 0), 79);
+            ends("4 with the address made first",
+                ofLocals(~address, 79, 1, 1, 1, 0, 6, 0, 4, 0, 0, address, 3, 0, 16, 0), 79);
         }
         for (int address : new int[] {-1, 64, MIN, MAX}) {
             RowCode x = ofLocals(address, 77, 0, 5, 2, 4, 1, 1, 1, 0, 4, 0, 0, 6, 2, 4, 17, 0);

@@ -18,11 +18,9 @@ final class LanguageTest {
         int classes = 0;
         int methodStart = -1;
         String methodIndent = "";
-        boolean isComment = false;
         for (int i = 0; i < lines.size(); i++) {
             String line = lines.get(i);
-            isComment = isComment && !line.contains("*/") || line.trim().startsWith("/**") && !line.contains("*/");
-            if (isComment || line.trim().startsWith("*") || line.trim().startsWith("//") || line.trim().startsWith("/**")) {
+            if (line.trim().matches("(/\\*|\\*|//).*")) {
                 continue;
             }
             for (String never : NEVER) {
