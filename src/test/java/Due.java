@@ -2,10 +2,39 @@ import java.util.NoSuchElementException;
 
 /** What the tests share: they tell each answer that is not the one due, and end with 1 if there was one. */
 final class Due {
+    private static final long MOST_SECONDS = 120;
     private static int wrong;
     private static int looked;
+    private static volatile String test = "the test";
+    private static volatile long since = System.nanoTime();
+
+    static {
+        Thread watch = new Thread(Due::endInTime);
+        watch.setDaemon(true);
+        watch.start();
+    }
 
     private Due() {
+    }
+
+    /** From here on this test has its time. */
+    static void begin(String name) {
+        test = name;
+        since = System.nanoTime();
+    }
+
+    /** A call that never ends must fail its test, and not keep it going for ever. */
+    private static void endInTime() {
+        while (System.nanoTime() - since < MOST_SECONDS * 1_000_000_000L) {
+            try {
+                Thread.sleep(500);
+            } catch (InterruptedException e) {
+                return;
+            }
+        }
+        System.out.println("  BROKEN  it did not end in " + MOST_SECONDS + " seconds: " + test);
+        System.out.flush();
+        Runtime.getRuntime().halt(1);
     }
 
     static void same(String what, long got, long want) {
@@ -30,8 +59,12 @@ final class Due {
         }
     }
 
-    static boolean anyWrong() {
-        return wrong > 0;
+    static int wrong() {
+        return wrong;
+    }
+
+    static int looked() {
+        return looked;
     }
 
     static void finish() {
@@ -42,34 +75,35 @@ final class Due {
         System.exit(wrong == 0 ? 0 : 1);
     }
 
-    /** A new object with the code that the pairs of number and argument tell. */
-    static RowCode code(int... pairs) {
-        RowCode x = new RowCode();
-        addAll(x, pairs);
-        return x;
-    }
-
-    static void addAll(RowCode x, int... pairs) {
-        for (int i = 0; i + 1 < pairs.length; i += 2) {
-            x.add(pairs[i], pairs[i + 1]);
-        }
-    }
-
-    static boolean localThrows(RowCode x, int i) {
+    static void throwsForLocal(RowCode x, int i) {
+        boolean threw = false;
         try {
             x.local(i);
-            return false;
         } catch (NoSuchElementException e) {
-            return e.getClass() == NoSuchElementException.class;
+            threw = e.getClass() == NoSuchElementException.class;
         }
+        yes("local(" + i + ") throws NoSuchElementException", threw);
     }
 
-    static boolean wordThrows(RowCode x, int address) {
+    static void throwsForWord(RowCode x, int address) {
+        boolean threw = false;
         try {
             x.word(address);
-            return false;
         } catch (NoSuchElementException e) {
-            return e.getClass() == NoSuchElementException.class;
+            threw = e.getClass() == NoSuchElementException.class;
+        }
+        yes("word(" + address + ") throws NoSuchElementException", threw);
+    }
+
+    /** Looks at all that an object tells of its state. */
+    static void state(String when, RowCode x, int value, int fuel, int[] locals, int[] words) {
+        same("value() " + when, x.value(), value);
+        same("fuel() " + when, x.fuel(), fuel);
+        for (int i = 0; i < 16; i++) {
+            same("local(" + i + ") " + when, x.local(i), i < locals.length ? locals[i] : 0);
+        }
+        for (int i = 0; i < 64; i++) {
+            same("word(" + i + ") " + when, x.word(i), i < words.length ? words[i] : 0);
         }
     }
 }

@@ -17,11 +17,11 @@ final class LikeTheRowTest {
     public static void main(String[] args) {
         long seed = args.length > 1 ? Long.parseLong(args[1]) : 20261115L;
         CodeMaker maker = new CodeMaker(seed);
-        for (int i = 0; i < CODES && !Due.anyWrong(); i++) {
+        for (int i = 0; i < CODES && Due.wrong() == 0; i++) {
             int size = i % 10 == 0 ? 1 + maker.below(340) : 1 + maker.below(50);
             hold(maker, i % 3 == 2 ? maker.spoiled(size) : maker.right(size), i % 3 != 2);
         }
-        for (int i = 0; i < SHORT_CODES && !Due.anyWrong(); i++) {
+        for (int i = 0; i < SHORT_CODES && Due.wrong() == 0; i++) {
             hold(maker, maker.steering(), false);
         }
         System.out.println(right + " right codes, " + wrong + " others; runs by answer: none " + ANSWERS[0] + ", end "
