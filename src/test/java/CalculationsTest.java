@@ -47,7 +47,7 @@ final class CalculationsTest {
 
     @Holds("by k 0 +")
     static void sums() {
-        make(0, row(2, 3, 5), row(7, 0, 7), row(0, 7, 7), row(-5, 5, 0), row(MAX, MIN, -1));
+        make(0, row(2, 3, 5), row(7, 0, 7), row(0, 7, 7), row(-5, 5, 0), row(MAX, MIN, -1), row(7, 1, 8), row(7, -1, 6));
     }
 
     @Holds("1 -")
@@ -57,7 +57,8 @@ final class CalculationsTest {
 
     @Holds("1 -")
     static void differencesOfXLessY() {
-        make(1, row(2, 3, -1), row(3, 2, 1), row(7, 0, 7), row(0, 7, -7), row(7, 7, 0), row(MIN, MIN, 0));
+        make(1, row(2, 3, -1), row(3, 2, 1), row(7, 0, 7), row(0, 7, -7), row(7, 7, 0), row(MIN, MIN, 0), row(7, 1, 6),
+            row(7, -1, 8));
     }
 
     @Holds("2 *")
@@ -69,7 +70,7 @@ final class CalculationsTest {
     @Holds("2 *")
     static void products() {
         make(2, row(6, 7, 42), row(-6, 7, -42), row(9, 1, 9), row(1, 9, 9), row(9, 0, 0), row(0, 9, 0),
-            row(9, -1, -9));
+            row(9, -1, -9), row(9, 2, 18), row(9, -2, -18));
     }
 
     @Holds("3 / (towards 0)")
@@ -85,7 +86,8 @@ final class CalculationsTest {
 
     @Holds("3 / (towards 0)")
     static void quotients() {
-        make(3, row(9, 1, 9), row(9, -1, -9), row(0, 5, 0), row(MIN, 1, MIN), row(MIN, MIN, 1), row(MIN, 2, -1 << 30));
+        make(3, row(9, 1, 9), row(9, -1, -9), row(0, 5, 0), row(0, 1, 0), row(0, -1, 0), row(MIN, 1, MIN),
+            row(MIN, MIN, 1), row(MIN, 2, -1 << 30));
     }
 
     @Holds("4 its rest")
@@ -107,24 +109,25 @@ final class CalculationsTest {
     @Holds("5 and")
     static void bitsInBoth() {
         make(5, row(12, 10, 8), row(-1, 77, 77), row(77, -1, 77), row(5, 0, 0), row(0, 5, 0), row(MIN, MAX, 0),
-            row(MIN, -1, MIN));
+            row(MIN, -1, MIN), row(77, -2, 76), row(77, 1, 1), row(77, 2, 0));
     }
 
     @Holds("6 or")
     static void bitsInEither() {
-        make(6, row(12, 10, 14), row(77, 0, 77), row(0, 77, 77), row(5, -1, -1), row(-1, 5, -1), row(MIN, MAX, -1));
+        make(6, row(12, 10, 14), row(77, 0, 77), row(0, 77, 77), row(5, -1, -1), row(-1, 5, -1), row(MIN, MAX, -1),
+            row(76, 1, 77), row(77, -2, -1));
     }
 
     @Holds("7 the bits in which they are alike")
     static void bitsAlike() {
         make(7, row(12, 10, -7), row(0, 0, -1), row(77, -1, 77), row(-1, 77, 77), row(5, 0, -6), row(0, 5, -6),
-            row(MIN, MAX, 0), row(MIN, MIN, -1));
+            row(MIN, MAX, 0), row(MIN, MIN, -1), row(77, -2, 76), row(77, 1, -77));
     }
 
     @Holds("8 those in which they differ")
     static void bitsThatDiffer() {
         make(8, row(12, 10, 6), row(77, 77, 0), row(77, 0, 77), row(0, 77, 77), row(5, -1, -6), row(MIN, MAX, -1),
-            row(MIN, MIN, 0));
+            row(MIN, MIN, 0), row(77, 1, 76), row(77, -2, -77));
     }
 
     @Holds("9 x shifted left by y")

@@ -86,6 +86,52 @@ final class CodeMaker {
         return made;
     }
 
+    /** A short code of few values, for what may be made of instructions that stand side by side. */
+    List<int[]> tight() {
+        code = new ArrayList<>();
+        length = 0;
+        int steps = 2 + random.nextInt(9);
+        for (int i = 0; i < steps; i++) {
+            switch (random.nextInt(9)) {
+                case 0: put(0, random.nextInt(5) - 2, 1); break;
+                case 1: case 2: put(1, random.nextInt(2), 1); break;
+                case 3: takeTightly(1, 5, 0, 0); break;
+                case 4: takeTightly(1, 6, 0, 0); break;
+                case 5: takeTightly(2, 7, random.nextInt(11), -1); break;
+                case 6: takeTightly(2, 8, random.nextInt(6), -1); break;
+                case 7: takeTightly(2, 9, random.nextInt(6), 0); break;
+                default: takeTightly(1, 14 - 12 * random.nextInt(2), random.nextInt(2), -1); break;
+            }
+        }
+        endTightly();
+        return code;
+    }
+
+    private void takeTightly(int values, int number, int k, int change) {
+        while (length < values) {
+            put(random.nextInt(2), random.nextInt(2), 1);
+        }
+        put(number, k, change);
+    }
+
+    /** An end, or one at each way of a 11, a 12 or an 18. */
+    private void endTightly() {
+        int kind = random.nextInt(4);
+        if (kind == 3) {
+            takeTightly(1, 18, random.nextInt(3) - 1, 0);
+            put(12, 0, 0);
+        } else if (kind > 0) {
+            takeTightly(1, 10 + kind, 0, -1);
+        }
+        if (kind > 0) {
+            put(0, 10, 1);
+            put(16, 0, 0);
+            put(13, 0, 0);
+            length -= kind == 3 ? 2 : 1;
+        }
+        takeTightly(1, 16, 0, 0);
+    }
+
     private void put(int number, int k, int change) {
         code.add(new int[] {number, k});
         length += change;

@@ -27,10 +27,21 @@ final class ComparisonsTest {
             Codes.two(8, k, p[0], p[1], value);
             String what = "8 " + k + " on " + p[0] + " " + p[1];
             Codes.ends(what + " turned", Codes.ofLocals(p[0], p[1], 1, 0, 1, 1, 8, k, 6, 0, 16, 0), ~value);
-            Codes.ends(what + " = 0", Codes.ofLocals(p[0], p[1], 1, 0, 1, 1, 8, k, 0, 0, 8, 0, 16, 0), ~value);
-            Codes.ends(what + " not = 0", Codes.ofLocals(p[0], p[1], 1, 0, 1, 1, 8, k, 0, 0, 8, 1, 16, 0), value);
+            comparesAgain(what, k, p);
             Codes.ends(what + " negative", Codes.ofLocals(p[0], p[1], 1, 0, 1, 1, 8, k, 5, 0, 16, 0), -value);
             steers(what, k, p);
+        }
+    }
+
+    /** What becomes of the -1 or 0 when it is compared itself. */
+    private static void comparesAgain(String what, int k, int[] p) {
+        int first = holds(k, p) ? -1 : 0;
+        for (int y = -2; y <= 2; y++) {
+            for (int again = 0; again <= 5; again++) {
+                int value = holds(again, new int[] {first, y}) ? -1 : 0;
+                Codes.ends(what + " and 8 " + again + " with " + y,
+                    Codes.ofLocals(p[0], p[1], 1, 0, 1, 1, 8, k, 0, y, 8, again, 16, 0), value);
+            }
         }
     }
 

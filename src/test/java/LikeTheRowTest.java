@@ -4,6 +4,7 @@ import java.util.List;
 final class LikeTheRowTest {
     private static final int CODES = 20000;
     private static final int SHORT_CODES = 300000;
+    private static final int TIGHT_CODES = 200000;
     private static int right;
     private static int wrong;
     private static final int[] ANSWERS = new int[6];
@@ -23,6 +24,9 @@ final class LikeTheRowTest {
         }
         for (int i = 0; i < SHORT_CODES && Due.wrong() == 0; i++) {
             hold(maker, maker.steering(), false);
+        }
+        for (int i = 0; i < TIGHT_CODES && Due.wrong() == 0; i++) {
+            hold(maker, maker.tight(), true);
         }
         System.out.println(right + " right codes, " + wrong + " others; runs by answer: none " + ANSWERS[0] + ", end "
             + ANSWERS[1] + ", no fuel " + ANSWERS[2] + ", no address " + ANSWERS[3] + ", division " + ANSWERS[4]

@@ -261,10 +261,18 @@ final class RightCodeTest {
 
     @Holds("never more than 60 values")
     static void with60ValuesWhatAddsNoneIsRight() {
-        RowCode x = new RowCode();
-        Codes.addTimes(x, 60, 1, 0);
-        Codes.add(x, 9, 0, 18, 5, 12, 0, 3, 0, 5, 0, 6, 0, 15, 0, 14, 0, 13, 0, 17, 0);
-        Codes.right("60 values and what adds none", x);
+        for (int number = 2; number <= 20; number++) {
+            RowCode x = values(60);
+            x.add(number, 0);
+            if (number == 18) {
+                x.add(12, 0);
+            }
+            x.add(17, 0);
+            if (number >= 10 && number <= 12 || number == 18) {
+                Codes.add(x, 13, 0, 17, 0);
+            }
+            Codes.right("60 values and a " + number, x);
+        }
     }
 
     @Holds("never more than 60 values")
