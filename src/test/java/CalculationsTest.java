@@ -47,7 +47,8 @@ final class CalculationsTest {
 
     @Holds("by k 0 +")
     static void sums() {
-        make(0, row(2, 3, 5), row(7, 0, 7), row(0, 7, 7), row(-5, 5, 0), row(MAX, MIN, -1), row(7, 1, 8), row(7, -1, 6));
+        make(0, row(2, 3, 5), row(7, 0, 7), row(0, 7, 7), row(-5, 5, 0), row(MAX, MIN, -1), row(7, 1, 8),
+            row(7, -1, 6));
     }
 
     @Holds("1 -")
