@@ -5,12 +5,11 @@ final class LikeTheRowTest {
     private static final int CODES = 20000;
     private static final int SHORT_CODES = 300000;
     private static final int TIGHT_CODES = 200000;
+    private static final int PUTS = 8;
+    private static final SideBySide BOTH = new SideBySide();
     private static int right;
     private static int wrong;
     private static final int[] ANSWERS = new int[6];
-    private static RowCode x = new RowCode();
-    private static PlainRow plain = new PlainRow();
-    private static int calls;
 
     private LikeTheRowTest() {
     }
@@ -39,29 +38,16 @@ final class LikeTheRowTest {
         Due.finish();
     }
 
-    /** An object is used for one code behind the other, as long as 512 calls allow it. */
     private static void hold(CodeMaker maker, List<int[]> code, boolean mustBeRight) {
         int turns = code.size() > 20 && code.size() < 150 ? 3 : 1;
-        int more = 2 + code.size() + turns * 107;
-        calls += more;
-        if (calls > 512) {
-            x = new RowCode();
-            plain = new PlainRow();
-            calls = more;
-        }
-        x.clear();
-        plain.code.clear();
-        for (int[] c : code) {
-            x.add(c[0], c[1]);
-            plain.code.add(c);
-        }
-        boolean isRight = plain.right();
+        BOTH.load(code, turns, 16 + PUTS);
         // A run finds out by itself whether the code is right.
         if (maker.below(2) == 0) {
-            same("build", 0, x.build() ? 1 : 0, isRight ? 1 : 0);
+            BOTH.build();
         }
+        boolean isRight = BOTH.isRight();
         if (mustBeRight && !isRight) {
-            Due.tell("the maker made a wrong code: " + plain);
+            Due.tell("the maker made a wrong code: " + BOTH);
         }
         if (isRight) {
             right++;
@@ -70,40 +56,17 @@ final class LikeTheRowTest {
         }
         for (int turn = 0; turn < turns; turn++) {
             scatter(maker);
-            runBoth(maker);
+            int fuel = maker.below(8) == 0 ? maker.below(2000) : maker.below(12);
+            ANSWERS[BOTH.run(fuel) + 1]++;
         }
-    }
-
-    private static void same(String call, int argument, long got, long want) {
-        Due.same(got == want ? call : call + "(" + argument + ") of " + plain, got, want);
     }
 
     private static void scatter(CodeMaker maker) {
         for (int i = 0; i < 16; i++) {
-            int value = maker.value();
-            same("set", i, x.set(i, value), plain.locals[i]);
-            plain.locals[i] = value;
+            BOTH.set(i, maker.value());
         }
-        for (int n = 0; n < 8; n++) {
-            int address = maker.below(64);
-            int value = maker.value();
-            same("put", address, x.put(address, value), plain.words[address]);
-            plain.words[address] = value;
-        }
-    }
-
-    private static void runBoth(CodeMaker maker) {
-        int fuel = maker.below(8) == 0 ? maker.below(2000) : maker.below(12);
-        int answer = plain.run(fuel);
-        ANSWERS[answer + 1]++;
-        same("run", fuel, x.run(fuel), answer);
-        same("value behind run", fuel, x.value(), plain.value);
-        same("fuel behind run", fuel, x.fuel(), plain.fuel);
-        for (int i = 0; i < 16; i++) {
-            same("local", i, x.local(i), plain.locals[i]);
-        }
-        for (int i = 0; i < 64; i++) {
-            same("word", i, x.word(i), plain.words[i]);
+        for (int n = 0; n < PUTS; n++) {
+            BOTH.put(maker.below(64), maker.value());
         }
     }
 }

@@ -43,6 +43,18 @@ final class RoomTest {
         }
     }
 
+    /** A code with labels that changes, and so is loaded anew, ahead of each run. */
+    private static void loadsOften(List<int[]> code) {
+        RowCode x = new RowCode();
+        for (int[] c : code) {
+            x.add(c[0], c[1]);
+        }
+        for (int i = code.size(); i + 1 < CALLS; i += 2) {
+            x.add(17, 0);
+            Due.yes("run(20) is a run", x.run(20) != -1);
+        }
+    }
+
     /** Many short codes, one behind the other. */
     private static void clearsOften() {
         RowCode x = new RowCode();
@@ -78,6 +90,12 @@ final class RoomTest {
         before = taken();
         changesOften();
         isInside("many changes of a code", before);
+        for (int seed = 1; seed <= 8; seed++) {
+            List<int[]> changing = new CodeMaker(seed).right(100);
+            before = taken();
+            loadsOften(changing);
+            isInside("many loads of code " + seed, before);
+        }
         before = taken();
         clearsOften();
         isInside("many codes", before);

@@ -80,6 +80,30 @@ final class SteeringTest {
         Codes.wrong("12 with an empty row", 12, 5, 13, 5, 17, 0);
     }
 
+    @Holds("11 the top goes, and if it was 0, it goes on at label k; 12 likewise if it wasn't 0.")
+    static void toALabelThatComesNextTheTopGoesTooAndNoOther() {
+        for (int number = 11; number <= 12; number++) {
+            for (int top : TOPS) {
+                String what = number + " on " + top + " to the next instruction";
+                Codes.ends(what, Codes.ofLocals(5, top, 1, 0, 1, 1, number, 0, 13, 0, 16, 0), 5);
+                Codes.ends(what + ", a 10 ahead",
+                    Codes.ofLocals(4, 5, 1, 0, 1, 1, 0, top, 10, 1, 13, 1, number, 0, 13, 0, 16, 0), 5);
+                Codes.ends(what + ", a 10 between",
+                    Codes.ofLocals(5, top, 1, 0, 1, 1, number, 0, 10, 0, 13, 0, 16, 0), 5);
+            }
+        }
+    }
+
+    @Holds("11 the top goes, and if it was 0, it goes on at label k; 12 likewise if it wasn't 0.")
+    static void aMadeValueBelowIsThereOnBothWays() {
+        for (int top : TOPS) {
+            int[] code = {1, 0, 1, 1, 7, 0, 1, 0, 6, 0, 11, 0, 6, 0, 10, 0, 0, 0, 13, 0, 16, 0};
+            Codes.ends("11 on " + top, Codes.ofLocals(~top, 1, code), top == 0 ? 0 : ~(~top + 1));
+            code[10] = 12;
+            Codes.ends("12 on " + top, Codes.ofLocals(~top, 1, code), top != 0 ? ~top + 1 : -1);
+        }
+    }
+
     @Holds("13 LABEL k (0 .. 99) is here.")
     static void labelsFrom0To99AreRight() {
         for (int label : new int[] {0, 1, 98, 99}) {
